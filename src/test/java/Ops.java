@@ -1,0 +1,67 @@
+/** The instructions by their names, and a short way to write programs. */
+final class Ops {
+    static final int NOP = 0;
+    static final int INT = 1;
+    static final int LONG = 2;
+    static final int NULL = 3;
+    static final int LOAD = 4;
+    static final int STORE = 5;
+    static final int POP = 6;
+    static final int DUP = 7;
+    static final int ADD = 8;
+    static final int SUB = 9;
+    static final int MUL = 10;
+    static final int DIV = 11;
+    static final int LESS = 12;
+    static final int SAME = 13;
+    static final int GOTO = 14;
+    static final int IF = 15;
+    static final int NEW = 16;
+    static final int GET = 17;
+    static final int PUT = 18;
+    static final int CLOSE = 19;
+    static final int HELD = 20;
+    static final int CALL = 21;
+    static final int APPLY = 22;
+    static final int RETURN = 23;
+    static final int THROW = 24;
+    static final int SAY = 25;
+    static final int FORK = 26;
+    static final int YIELD = 27;
+
+    static final int ZERO = 1;
+    static final int MISFIT = 2;
+    static final int NOTHING = 3;
+    static final int FULL = 4;
+    static final int DEEP = 5;
+    static final int STACK = 6;
+    static final int BEHIND = 7;
+
+    private Ops() {
+    }
+
+    /** An instruction: op, and a and b where it has them. */
+    static int[] op(int... parts) {
+        return parts;
+    }
+
+    /** Function f takes so many arguments and has this code. */
+    static SnapForge code(SnapForge x, int f, int arguments, int[]... instructions) {
+        x.function(f, arguments);
+        for (int[] i : instructions) {
+            int op = i[0];
+            boolean bAlone = op == GOTO || op == IF;
+            int a = !bAlone && i.length > 1 ? i[1] : 0;
+            int b = bAlone ? i[1] : i.length > 2 ? i[2] : 0;
+            x.add(f, op, a, b);
+        }
+        return x;
+    }
+
+    /** A new object whose function 0 without arguments has this code, and is started. */
+    static SnapForge started(int[]... instructions) {
+        SnapForge x = code(new SnapForge(), 0, 0, instructions);
+        x.start(0, 0, 0);
+        return x;
+    }
+}
