@@ -10,6 +10,7 @@ public final class ImageTest {
         codeSums();
         snapshotChangesNothing();
         goesOn();
+        loadsOneAfterTheOther();
         loadWithoutStart();
         faultsOfTheHead();
         faultsOfThreads();
@@ -181,6 +182,31 @@ public final class ImageTest {
         Checks.same("something was said", said > 5 ? 1 : 0, 1);
     }
 
+    /** What an earlier image brought is nothing to a later one. */
+    private static void loadsOneAfterTheOther() {
+        SnapForge x = new SnapForge();
+        // Thread 0 ended with a record, whose field 0 is itself and 1 a closure; thread 1 failed;
+        // thread 2 has two frames, the upper one by the closure.
+        int[] three = summed(83, 78, 1, 0, 2, 3, 3, 1, 3, 0, 2, 7, 0, 2,
+            0, 0, 0, 1, 1, 0, 0, 0, 0, 0, 0, 2, 0, 0,
+            5, 3, 4, 1, 0, 0, 0, 0, 0,
+            2, 3, 3, 0, 4, 1, 0, 4, 0, 0);
+        int[] one = summed(83, 78, 1, 0, 0, 0, 1, 0, 1, 0, 0, 0, 0, 0, 0, 0, 0, 0);
+        int[] two = summed(83, 78, 1, 0, 0, 0, 2, 1, 4, 0, 2, 3, 1, 4, 1, 1, 1, 8, 0, 0, 0);
+        for (int round = 0; round < 3; round++) {
+            reads("three threads", x, 3, three);
+            Checks.same("two objects", x.told(3), 2);
+            reads("one thread", x, 1, one);
+            Checks.same("no objects", x.told(3), 0);
+            Checks.same("an empty stack", x.told(40), 0);
+            Checks.same("no thread 1", x.told(11), -1);
+            reads("two threads", x, 2, two);
+            Checks.same("one object", x.told(3), 1);
+            Checks.same("no error", x.told(30), 0);
+            Checks.same("no frames", x.told(20), 0);
+        }
+    }
+
     private static void loadWithoutStart() {
         SnapForge x = new SnapForge();
         x.add(2, Ops.NOP, 0, 0);
@@ -261,6 +287,7 @@ public final class ImageTest {
         faulty("no sort at all", 11, ended(4, 0, 1, 0));
         faulty("an object that did not come up", 15, ended(3, 0, 2, 3, 0, 0, 0, 3, 0, 0, 0));
         faulty("it is a fault even when its byte is missing", 15, ended(3, 0, 2, 3, 0, 0, 0));
+        faulty("even when the sum stands there", 15, summed(ended(3, 0, 2, 3, 0, 0, 0)));
         faulty("a number of another sort", 13, ended(3, 0, 1, 3, 4, 0));
         faulty("a number not below how many", 13, ended(3, 0, 1, 3, 3, 1));
         faulty("a number above those that came up", 13, ended(3, 0, 3, 3, 3, 2));

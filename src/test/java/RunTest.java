@@ -7,6 +7,7 @@ public final class RunTest {
 
     public static void main(String[] args) {
         start();
+        startAnew();
         limits();
         numbers();
         misfits();
@@ -51,6 +52,32 @@ public final class RunTest {
         Checks.same("one argument", x.start(2, 5, 6), 1);
         x.run(2);
         Checks.unsupported("y is not taken", () -> x.value(0));
+    }
+
+    /** What a start leaves behind is nothing to the next one. */
+    private static void startAnew() {
+        SnapForge x = new SnapForge();
+        Ops.code(x, 0, 2, Ops.op(Ops.FORK, 1), Ops.op(Ops.NEW), Ops.op(Ops.DUP), Ops.op(Ops.STORE, 2),
+            Ops.op(Ops.LOAD, 0), Ops.op(Ops.PUT, 1), Ops.op(Ops.GOTO, 6));
+        Ops.code(x, 1, 0, Ops.op(Ops.GOTO, 0));
+        x.start(0, 7, 8);
+        x.run(6);
+        Checks.same("the turn of another", x.told(1), 1);
+        Checks.same("some done in it", x.told(2), 2);
+        Ops.code(x, 2, 0, Ops.op(Ops.LOAD, 2), Ops.op(Ops.LOAD, 0), Ops.op(Ops.SAME), Ops.op(Ops.SAY),
+            Ops.op(Ops.NEW), Ops.op(Ops.GET, 1), Ops.op(Ops.NULL), Ops.op(Ops.SAME), Ops.op(Ops.RETURN));
+        Checks.same("a start without arguments", x.start(2, 3, 4), 0);
+        Checks.same("the turn of thread 0", x.told(1), 0);
+        Checks.same("none done in it", x.told(2), 0);
+        Checks.same("an empty stack", x.told(40), 0);
+        Checks.same("it ends", x.run(300), 0);
+        Checks.same("all locals are the same null", x.said(0), 1);
+        Checks.same("a field is null at first", x.value(0), 1);
+        for (int i = 0; i < 30; i++) {
+            x.start(2, 0, 0);
+            x.run(300);
+            Checks.same("one record each time", x.told(3), 1);
+        }
     }
 
     private static void limits() {
@@ -162,6 +189,7 @@ public final class RunTest {
         gives("the same longs", binary(Ops.SAME, n(1, 5), n(1, 5)), 1, 1);
         gives("int and long", binary(Ops.SAME, n(5), n(0, 5)), 1, 0);
         same("nulls", 1, Ops.op(Ops.NULL), Ops.op(Ops.NULL));
+        same("a null local and null", 1, Ops.op(Ops.LOAD, 3), Ops.op(Ops.NULL));
         same("null and 0", 0, Ops.op(Ops.NULL), Ops.op(Ops.INT, 0));
         same("one record", 1, Ops.op(Ops.NEW), Ops.op(Ops.DUP));
         same("two records", 0, Ops.op(Ops.NEW), Ops.op(Ops.NEW));
@@ -275,9 +303,18 @@ public final class RunTest {
             Checks.same("nothing made", x.told(3), 0);
             Checks.same("nothing begun", x.told(0), 1);
         }
-        SnapForge y = six(Ops.op(Ops.CLOSE, 1, 1));
-        y.run(7);
-        Checks.same("CLOSE that takes one", y.told(40), 6);
+        int[][] takers = {Ops.op(Ops.CLOSE, 1, 1), Ops.op(Ops.FORK, 1)};
+        for (int[] taker : takers) {
+            SnapForge y = six(taker);
+            y.function(1, 1);
+            y.run(7);
+            Checks.same("one goes, one comes by " + taker[0], y.told(40), 6);
+            SnapForge z = Ops.code(y, 0, 0, Ops.op(Ops.NULL), Ops.op(Ops.NULL), Ops.op(Ops.NULL),
+                Ops.op(Ops.NULL), Ops.op(Ops.NULL), taker);
+            z.start(0, 0, 0);
+            z.run(6);
+            Checks.same("with five by " + taker[0], z.told(40), 5);
+        }
     }
 
     /** Six values and then this instruction. */
@@ -410,6 +447,7 @@ public final class RunTest {
         Checks.same("nothing looked for before the next", x.told(3), 24);
         x.run(1);
         Checks.same("one stays, one comes", x.told(3), 2);
+        sameRecordStays();
         SnapForge y = Ops.started(Ops.op(Ops.LOAD, 0), Ops.op(Ops.CLOSE, 1, 1), Ops.op(Ops.STORE, 0),
             Ops.op(Ops.GOTO, 0));
         y.run(96);
@@ -423,6 +461,21 @@ public final class RunTest {
         Checks.same("the error is handled", z.told(50), 4);
         z.run(3);
         Checks.same("all are gone but the new one", z.told(3), 1);
+    }
+
+    /** Local 0 keeps its first record through many searches; new ones have null fields. */
+    private static void sameRecordStays() {
+        SnapForge x = Ops.started(Ops.op(Ops.NEW), Ops.op(Ops.DUP), Ops.op(Ops.STORE, 0),
+            Ops.op(Ops.STORE, 1), Ops.op(Ops.NEW), Ops.op(Ops.DUP), Ops.op(Ops.GET, 0),
+            Ops.op(Ops.NULL), Ops.op(Ops.SAME), Ops.op(Ops.SAY), Ops.op(Ops.LOAD, 0), Ops.op(Ops.PUT, 0),
+            Ops.op(Ops.LOAD, 0), Ops.op(Ops.LOAD, 1), Ops.op(Ops.SAME), Ops.op(Ops.IF, 4));
+        for (int i = 0; i < 3; i++) {
+            Checks.same("it goes on", x.run(300), 1);
+        }
+        Checks.same("many records", x.told(5) > 60 ? 1 : 0, 1);
+        for (int k = 0; k < 40; k++) {
+            Checks.same("a new record's field is null", x.said(k), 1);
+        }
     }
 
     /** Objects that stay by each of the ways to find them. */
