@@ -2,6 +2,7 @@
 final class Checks {
     private static int right = 0;
     private static int wrong = 0;
+    private static String sentence = "";
 
     /** A call that may throw. */
     interface Call {
@@ -11,13 +12,27 @@ final class Checks {
     private Checks() {
     }
 
+    /** The words of the document that the next answers are compared for. */
+    static void about(String words) {
+        sentence = "[" + words + "] ";
+    }
+
     static void same(String what, long got, long due) {
         if (got == due) {
             right++;
             return;
         }
         wrong++;
-        System.out.println(what + " answered " + got + ", due is " + due);
+        System.out.println(sentence + what + " answered " + got + ", due is " + due);
+    }
+
+    static void same(String what, String got, String due) {
+        if (got.equals(due)) {
+            right++;
+            return;
+        }
+        wrong++;
+        System.out.println(sentence + what + " answered\n" + got + "\ndue is\n" + due);
     }
 
     static void fails(String what, Class<? extends RuntimeException> due, Call call) {
@@ -32,7 +47,7 @@ final class Checks {
             got = "threw " + e.getClass().getName();
         }
         wrong++;
-        System.out.println(what + " " + got + ", due is " + due.getName());
+        System.out.println(sentence + what + " " + got + ", due is " + due.getName());
     }
 
     static void bad(String what, Call call) {

@@ -1,3 +1,7 @@
+import java.util.ArrayList;
+import java.util.Collections;
+import java.util.List;
+
 /** The instructions by their names, and a short way to write programs. */
 final class Ops {
     static final int NOP = 0;
@@ -37,6 +41,11 @@ final class Ops {
     static final int STACK = 6;
     static final int BEHIND = 7;
 
+    private static final List<String> NAMES = List.of(
+        "NOP", "INT", "LONG", "NULL", "LOAD", "STORE", "POP", "DUP", "ADD", "SUB", "MUL", "DIV", "LESS", "SAME",
+        "GOTO", "IF", "NEW", "GET", "PUT", "CLOSE", "HELD", "CALL", "APPLY", "RETURN", "THROW", "SAY", "FORK",
+        "YIELD");
+
     private Ops() {
     }
 
@@ -63,5 +72,39 @@ final class Ops {
         SnapForge x = code(new SnapForge(), 0, 0, instructions);
         x.start(0, 0, 0);
         return x;
+    }
+
+    /** Function f takes so many arguments and has this code, as in "INT 5, LONG 1 -1, GOTO 0". */
+    static SnapForge write(SnapForge x, int f, int arguments, String text) {
+        String[] lines = text.isBlank() ? new String[0] : text.split(",");
+        int[][] instructions = new int[lines.length][];
+        for (int i = 0; i < lines.length; i++) {
+            String[] words = lines[i].trim().split(" ");
+            int[] parts = new int[words.length];
+            parts[0] = NAMES.indexOf(words[0]);
+            for (int j = 1; j < words.length; j++) {
+                parts[j] = Integer.parseInt(words[j]);
+            }
+            instructions[i] = parts;
+        }
+        return code(x, f, arguments, instructions);
+    }
+
+    /** A new object whose function 0 without arguments has this code, and is started. */
+    static SnapForge begun(String text) {
+        SnapForge x = write(new SnapForge(), 0, 0, text);
+        x.start(0, 0, 0);
+        return x;
+    }
+
+    /** An instruction so many times, and more behind it. */
+    static String times(int count, String instruction, String... more) {
+        List<String> all = new ArrayList<>(Collections.nCopies(count, instruction));
+        all.addAll(List.of(more));
+        return String.join(", ", all);
+    }
+
+    static String name(int op) {
+        return NAMES.get(op);
     }
 }
