@@ -9,7 +9,6 @@ public final class BytesTest {
         patchWithSum();
         wrongPatches();
         cut();
-        fullImage();
         Checks.finish("BytesTest");
     }
 
@@ -90,37 +89,5 @@ public final class BytesTest {
         Checks.outside("it went", () -> x.image(3));
         Checks.same("one comes behind", x.patch(3, 77, true), -1);
         Checks.same("all go", x.cut(0), 4);
-    }
-
-    /**
-     * A large image, and bytes behind it up to the limit. It takes more calls than an object is
-     * promised to be used for, but the row must not be overrun by those either.
-     */
-    private static void fullImage() {
-        SnapForge x = new SnapForge();
-        x.function(0, 1);
-        int[][] code = {
-            {Ops.LONG, -1, -1}, {Ops.STORE, 1, 0}, {Ops.LOAD, 1, 0}, {Ops.STORE, 2, 0}, {Ops.LOAD, 1, 0},
-            {Ops.STORE, 3, 0}, {Ops.LOAD, 1, 0}, {Ops.LOAD, 1, 0}, {Ops.LOAD, 1, 0}, {Ops.LOAD, 1, 0},
-            {Ops.LOAD, 1, 0}, {Ops.LOAD, 1, 0}, {Ops.CALL, 0, 0}
-        };
-        for (int[] i : code) {
-            x.add(0, i[0], i[1], i[2]);
-        }
-        x.start(0, 1, 0);
-        x.run(13 * 4 + 12);
-        int size = x.snapshot();
-        // All values are longs of 9 bytes but the argument of the lowest frame, an int of 5; all
-        // frames but the uppermost gave one of their six values to the next.
-        int frame = 2 + 1 + 4 * 9 + 1 + 6 * 9;
-        Checks.same("five frames", size, 7 + 2 + 5 * frame - 4 * 9 - 4 + 1 + 1);
-        int calls = 0;
-        while (x.image(-1) < 2400 && calls < 3000) {
-            x.patch(x.image(-1), 1, false);
-            calls++;
-        }
-        Checks.same("2400", x.image(-1), 2400);
-        Checks.outside("no more come", () -> x.patch(2400, 1, false));
-        Checks.same("the last", x.image(2399), 1);
     }
 }

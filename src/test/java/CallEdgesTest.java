@@ -733,6 +733,7 @@ public final class CallEdgesTest {
         loadAnswers();
         saidStays();
         nothingChanges();
+        nothingChangesAfterALoad();
         loadLeavesTheImage();
     }
 
@@ -800,6 +801,24 @@ public final class CallEdgesTest {
         SnapForge z = going();
         Checks.same("as one that was never spoilt", z.run(9), x.run(9));
         Checks.same("in all", all(x).replace("where " + (size - 1), "where -2"), all(z));
+    }
+
+    private static void nothingChangesAfterALoad() {
+        Checks.about("load: nothing changes then but where, after a load that went well, too");
+        SnapForge x = going();
+        x.snapshot();
+        x.load();
+        String before = all(x);
+        int last = x.image(-1) - 1;
+        x.patch(4, 2, false);
+        x.patch(6, 2, false);
+        Checks.bad("load", x::load);
+        int fault = x.where();
+        Checks.same("all that was", all(x).replace("where " + fault, "where -2"), before);
+        x.patch(10, 0, false);
+        Checks.bad("load of another place with a wrong sum", x::load);
+        Checks.same("where", x.where(), last);
+        Checks.same("all that was", all(x).replace("where " + last, "where -2"), before);
     }
 
     private static void loadLeavesTheImage() {
@@ -874,6 +893,7 @@ public final class CallEdgesTest {
         patchedBytes();
         patchedPlaces();
         patchedSums();
+        fullImage();
         refusedPatches();
     }
 
@@ -940,6 +960,28 @@ public final class CallEdgesTest {
         Checks.same("the one before it stays", x.image(2), 100);
         Checks.same("it is the last one now", x.patch(2, 103, true), 100);
         Checks.same("so it becomes more", x.image(3), 8);
+    }
+
+    /** This takes more than the 512 calls that are promised: no way was found to have 2400 bytes with fewer. */
+    private static void fullImage() {
+        Checks.about("patch: IndexOutOfBoundsException .. if there are 2400");
+        SnapForge x = new SnapForge();
+        for (int n = 0; n < 2399; n++) {
+            x.patch(n, n & 127, false);
+        }
+        Checks.same("one of 2399", x.patch(7, 9, false), 7);
+        Checks.same("the 2400th", x.patch(2399, 255, false), -1);
+        Checks.outside("one more", () -> x.patch(2400, 1, false));
+        for (int k : new int[] {-1, 0, 7, 2399, 2401}) {
+            Checks.outside("place " + k, () -> x.patch(k, 1, true));
+        }
+        Checks.bad("b", () -> x.patch(0, 256, false));
+        Checks.same("how many", x.image(-1), 2400);
+        Checks.same("the first", x.image(0), 0);
+        Checks.same("the last", x.image(2399), 255);
+        Checks.outside("behind it", () -> x.image(2400));
+        Checks.same("one goes", x.cut(2399), 1);
+        Checks.same("then they can be changed again", x.patch(0, 5, true), 0);
     }
 
     private static void refusedPatches() {

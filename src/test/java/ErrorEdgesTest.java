@@ -190,12 +190,15 @@ public final class ErrorEdgesTest {
             Checks.same(op, errorAfter(7, x), 0);
             Checks.same("five after " + op, x.told(40), 5);
         }
-        String[] ops = {"CLOSE 0 1", "FORK 5"};
-        for (String op : ops) {
-            SnapForge x = Ops.begun(six + op);
-            x.function(5, 1);
-            Checks.same(op, errorAfter(7, x), 0);
-            Checks.same("six after " + op, x.told(40), 6);
+        for (int taken = 0; taken <= 2; taken++) {
+            for (int n = taken; n < 6 || n == 6 && taken > 0; n++) {
+                for (String op : new String[] {"CLOSE 0 " + taken, "FORK 5"}) {
+                    SnapForge x = Ops.begun(Ops.times(n, "INT 8", op));
+                    x.function(5, taken);
+                    Checks.same(op + " of " + n, errorAfter(n + 1, x), 0);
+                    Checks.same("what is left after " + op + " of " + n, x.told(40), n - taken + 1);
+                }
+            }
         }
         SnapForge y = Ops.begun(Ops.times(5, "INT 8", "NEW", "GET 1"));
         Checks.same("GET", errorAfter(7, y), 0);

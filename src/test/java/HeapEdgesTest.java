@@ -1,10 +1,5 @@
 /** The boundary cases that the document names for objects: how they are counted, and looked for with 24. */
 public final class HeapEdgesTest {
-    /** Makes and loses records for ever; it is laid at a place p by litter(p). */
-    private static String litter(int place) {
-        return "NEW, POP, GOTO " + place;
-    }
-
     private HeapEdgesTest() {
     }
 
@@ -25,7 +20,15 @@ public final class HeapEdgesTest {
         beforeCloseTakes();
         sameObjectsStay();
         countedAfterLoad();
+        roomAfterStart();
+        roomAfterLoad();
+        roomAfterSearch();
         Checks.finish("HeapEdgesTest");
+    }
+
+    /** Code that makes and loses records for ever, for this place. */
+    private static String litter(int place) {
+        return "NEW, POP, GOTO " + place;
     }
 
     /** How many objects stay when they are looked for; the program makes some till then. */
@@ -293,5 +296,78 @@ public final class HeapEdgesTest {
         Checks.same("there was room for 23", x.told(3), 24);
         x.run(1);
         Checks.same("and then they are looked for", x.told(3), 2);
+    }
+
+    /** Makes 24 records in a row that begins in local 1, is at place 14 then, loses them and begins anew. */
+    private static SnapForge makerOf24() {
+        SnapForge x = new SnapForge();
+        Ops.write(x, 0, 1, "NEW, DUP, LOAD 1, PUT 0, DUP, LOAD 0, PUT 1, STORE 1, LOAD 0, INT 1, SUB, DUP, STORE 0, "
+            + "IF 0, NULL, STORE 1, INT 24, STORE 0, GOTO 0");
+        x.start(0, 24, 0);
+        return x;
+    }
+
+    private static void makesAll(String what, SnapForge x) {
+        x.run(300);
+        x.run(24 * 14 - 300);
+        Checks.same(what + ": place", x.told(50), 14);
+        Checks.same(what + ": counted", x.told(3), 24);
+        x.snapshot();
+        int at = 9 + 3 + 5 + 2 + 2 + 1;
+        Checks.same(what + ": in the image", x.image(at), 24);
+        at++;
+        for (int i = 0; i < 24; i++) {
+            Checks.same(what + ": a record", x.image(at), 3);
+            Checks.same(what + ": the next one in it", x.image(at + 1), i < 23 ? 3 : 0);
+            at += i < 23 ? 3 : 2;
+            Checks.same(what + ": its own number in it", x.image(at + 1), i + 1);
+            at += 6;
+        }
+    }
+
+    private static void roomAfterStart() {
+        Checks.about("start: no OBJECTS counted: there is room for 24");
+        SnapForge x = makerOf24();
+        makesAll("at first", x);
+        x.start(0, 24, 0);
+        makesAll("after a start", x);
+    }
+
+    private static void roomAfterLoad() {
+        Checks.about("load: OBJECTS become as THE IMAGE says: there is room for the others");
+        SnapForge x = makerOf24();
+        int size = x.snapshot();
+        int[] bytes = new int[size];
+        for (int k = 0; k < size; k++) {
+            bytes[k] = x.image(k);
+        }
+        for (int i = 0; i < 3; i++) {
+            makesAll("load " + i, x);
+            x.cut(0);
+            for (int k = 0; k < size; k++) {
+                x.patch(k, bytes[k], false);
+            }
+            x.load();
+            Checks.same("none is there", x.told(3), 0);
+        }
+    }
+
+    private static void roomAfterSearch() {
+        Checks.about("those stay that are found: there is room for the others");
+        SnapForge x = makerOf24();
+        makesAll("at first", x);
+        x.run(5);
+        makesAll("after all were lost", x);
+        // Twelve of them stay, each second one.
+        SnapForge y = Ops.begun("NEW, POP, NEW, DUP, LOAD 1, PUT 0, STORE 1, GOTO 0");
+        y.run(12 * 8);
+        Checks.same("24 are there", y.told(3), 24);
+        y.run(1);
+        Checks.same("12 stay, one comes", y.told(3), 13);
+        y.run(7 + 8 * 5);
+        Checks.same("all there is room for", y.told(3), 24);
+        y.snapshot();
+        int at = 9 + 3 + 1 + 2 + 2 + 1;
+        Checks.same("as many are in the image as were kept", y.image(at), 18);
     }
 }

@@ -375,12 +375,15 @@ public final class ImageEdgesTest {
         Checks.about("the first BYTE that is not as said has the FAULT");
         int[] good = join(head(1), row(0, 1), FRAME, row(0));
         int[] places = {0, 1, 2, 4, 5, 6, 7, 8, 9, 10, 11, 12, 16};
+        int[] nearlyGood = {84, 79, 2, 3, 4, 4, 3, 6, 6, 31, 1, 5, 7};
         for (int i = 0; i < places.length; i++) {
             int[] bytes = good.clone();
             for (int j = i; j < places.length; j++) {
-                bytes[places[j]] = 99;
+                bytes[places[j]] = nearlyGood[j];
             }
             faulty("from byte " + places[i] + " on", places[i], summed(bytes));
+            faulty("and a wrong sum", places[i], join(bytes, row(0)));
+            faulty("and nothing behind it", places[i], Arrays.copyOf(bytes, places[i] + 1));
         }
     }
 
@@ -410,6 +413,9 @@ public final class ImageEdgesTest {
         Checks.same("where", x.where(), 2);
         SnapForge y = laid(row(83, 78, 1, 7, 99, 99));
         Checks.unsupported("faults behind it", y::load);
+        SnapForge w = laid(row(83, 78, 1, 7));
+        Checks.unsupported("nothing behind it", w::load);
+        Checks.same("where", w.where(), 3);
         SnapForge z = laid(row(83, 78, 1));
         Checks.bad("it is missing", z::load);
         Checks.same("where", z.where(), 3);
@@ -501,11 +507,33 @@ public final class ImageEdgesTest {
         int[] closure = ended(4, 0, 1, 4, 5, 2, 0, 0, 0, 0, 0, 0, 0, 0, 0);
         goodAlone("held 0", 14, closure, upTo(0, 4));
         goodAlone("held 1", 15, closure, upTo(0, 4));
+        readNulls();
         Checks.about("1 and four BYTES, an INT, 2 and eight, a LONG");
         Checks.same("an int", reads("INT", summed(ended(1, 254, 255, 255, 255, 0))).value(0), -2);
         Checks.same("the least", reads("INT", summed(ended(1, 0, 0, 0, 128, 0))).value(0), MIN);
         Checks.same("a long", reads("LONG", summed(ended(2, 254, 255, 255, 255, 0, 0, 0, 0, 0))).value(0), 4294967294L);
         Checks.same("the least", reads("LONG", summed(ended(2, 0, 0, 0, 0, 0, 0, 0, 128, 0))).value(0), Long.MIN_VALUE);
+    }
+
+    /** Numbers stood where the nulls come, in both of the worlds that a load may read into. */
+    private static void readNulls() {
+        Checks.about("A VALUE: 0 NULL, the same as every NULL");
+        int[] numbers = summed(framed(3, 0, 1, 7, 7, 7, 7, 0, 0, 1, 2, 8, 8, 8, 8, 8, 8, 8, 8,
+            1, 3, 1, 9, 9, 9, 9, 0, 0));
+        int[] nulls = summed(framed(3, 0, 0, 0, 0, 1, 0, 1, 3, 0, 0, 0));
+        SnapForge x = new SnapForge();
+        for (int[] bytes : new int[][] {numbers, numbers, nulls}) {
+            x.cut(0);
+            for (int k = 0; k < bytes.length; k++) {
+                x.patch(k, bytes[k], false);
+            }
+            x.load();
+        }
+        Ops.write(x, 0, 0, "NULL, SAME, LOAD 1, NULL, SAME, ADD, LOAD 0, GET 0, NULL, SAME, ADD, RETURN");
+        Checks.same("it ends", x.run(300), 0);
+        Checks.same("the stack's, the local's and the field's", x.value(0), 3);
+        SnapForge y = reads("an ended thread's", summed(ended(0, 0)));
+        Checks.unsupported("value", () -> y.value(0));
     }
 
     /** A running thread with 24 or more records in locals and stacks, with these numbers. */

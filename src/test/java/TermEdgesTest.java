@@ -482,6 +482,20 @@ public final class TermEdgesTest {
         Checks.same("what lay below", x.value(0), 4);
         Checks.same("two arguments, the one on top last", x.value(1), 44);
         Checks.same("one argument", x.value(2), 7);
+        // The threads of the latest start ended and failed; those of the next one are new.
+        SnapForge y = Ops.begun("FORK 1, FORK 2, GOTO 2");
+        Ops.write(y, 1, 0, "NULL, RETURN");
+        Ops.write(y, 2, 0, "POP");
+        for (int i = 0; i < 2; i++) {
+            y.start(0, 0, 0);
+            y.run(2);
+            Checks.same("thread 1 runs", y.told(11), 0);
+            Checks.same("thread 2 runs", y.told(12), 0);
+            Checks.same("without an error", y.told(32), 0);
+            y.run(20);
+            Checks.same("thread 1 ended", y.told(11), 1);
+            Checks.same("thread 2 failed", y.told(12), 2);
+        }
     }
 
     private static void yields() {
