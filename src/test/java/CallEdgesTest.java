@@ -962,26 +962,39 @@ public final class CallEdgesTest {
         Checks.same("so it becomes more", x.image(3), 8);
     }
 
-    /** This takes more than the 512 calls that are promised: no way was found to have 2400 bytes with fewer. */
+    /** An object with so many bytes, after a call for each of them above 1929 and 37 more. */
+    private static SnapForge withBytes(int count) {
+        SnapForge x = Ops.full();
+        int size = x.snapshot();
+        Checks.same("the image of now", size, 1929);
+        for (int n = size; n < count; n++) {
+            x.patch(n, n & 127, true);
+        }
+        return x;
+    }
+
+    /** With 2400 bytes 508 calls have been made: there are four more for each object. */
     private static void fullImage() {
         Checks.about("patch: IndexOutOfBoundsException .. if there are 2400");
-        SnapForge x = new SnapForge();
-        for (int n = 0; n < 2399; n++) {
-            x.patch(n, n & 127, false);
+        SnapForge one = withBytes(2399);
+        Checks.same("one of 2399", one.patch(7, 9, false), 0);
+        Checks.same("the 2400th", one.patch(2399, 255, false), -1);
+        Checks.outside("one more", () -> one.patch(2400, 1, false));
+        Checks.outside("the last one", () -> one.patch(2399, 1, false));
+        SnapForge two = withBytes(2400);
+        Checks.outside("the first one", () -> two.patch(0, 1, true));
+        Checks.same("it stays", two.image(0), 83);
+        Checks.same("how many", two.image(-1), 2400);
+        Checks.same("the last stays", two.image(2399), 2399 & 127);
+        SnapForge three = withBytes(2400);
+        for (int k : new int[] {-1, 7, 2398, 2401}) {
+            Checks.outside("place " + k, () -> three.patch(k, 1, true));
         }
-        Checks.same("one of 2399", x.patch(7, 9, false), 7);
-        Checks.same("the 2400th", x.patch(2399, 255, false), -1);
-        Checks.outside("one more", () -> x.patch(2400, 1, false));
-        for (int k : new int[] {-1, 0, 7, 2399, 2401}) {
-            Checks.outside("place " + k, () -> x.patch(k, 1, true));
-        }
-        Checks.bad("b", () -> x.patch(0, 256, false));
-        Checks.same("how many", x.image(-1), 2400);
-        Checks.same("the first", x.image(0), 0);
-        Checks.same("the last", x.image(2399), 255);
-        Checks.outside("behind it", () -> x.image(2400));
-        Checks.same("one goes", x.cut(2399), 1);
-        Checks.same("then they can be changed again", x.patch(0, 5, true), 0);
+        SnapForge four = withBytes(2400);
+        Checks.bad("b", () -> four.patch(0, 256, false));
+        Checks.outside("no byte behind it", () -> four.image(2400));
+        Checks.same("one goes", four.cut(2399), 1);
+        Checks.same("then they can be changed again", four.patch(0, 5, true), 83);
     }
 
     private static void refusedPatches() {

@@ -97,6 +97,22 @@ final class Ops {
         return x;
     }
 
+    /**
+     * Three threads with five frames each, all locals and stacks full of longs, but for one value
+     * each, from which eight records hang in a chain, full of longs otherwise; made with 36 calls.
+     * The threads go side by side, so that with the last YIELD all of them stand before their CALL.
+     */
+    static SnapForge full() {
+        SnapForge x = begun("FORK 0, LONG 1 1, STORE 0, LONG 1 1, STORE 1, LONG 1 1, STORE 2, LONG 1 1, STORE 3, "
+            + "NEW, DUP, LOAD 0, PUT 0, DUP, LONG 1 1, PUT 1, DUP, LONG 1 1, PUT 2, STORE 0, GOTO 9, "
+            + "POP, LONG 1 1, DUP, DUP, DUP, DUP, DUP, YIELD, CALL 0");
+        x.handle(0, 0, 1, 1);
+        x.handle(0, 9, 10, 21);
+        x.run(300);
+        x.run(270);
+        return x;
+    }
+
     /** An instruction so many times, and more behind it. */
     static String times(int count, String instruction, String... more) {
         List<String> all = new ArrayList<>(Collections.nCopies(count, instruction));
